@@ -266,7 +266,7 @@ public final class BreadTalk {
             case 1:
                 return Walk.period(it, Walk.signs(it, topic), 0);
             case 2:
-                return Walk.hermits(it, topic);
+                return Walk.fewestHermits(it, topic);
             default:
                 return NONE;
         }
@@ -709,7 +709,8 @@ public final class BreadTalk {
     /** Reads a text into drafts, so that a faulty one leaves what was told as it was. */
     private static final class Reader {
         // Each word with one blank behind it; the constants below are their numbers in this row.
-        private static final String WORDS = "rye bun crust toast wafer say bake eat butter talk night topics life house visit mind said loaf lies crumb for against ";
+        private static final String WORDS =
+                "rye bun crust toast wafer say bake eat butter talk night topics life house visit mind said loaf lies crumb for against ";
         private static final int FIRST_DEED = 5;
         private static final int WORD_SAY = FIRST_DEED + SAY;
         private static final int WORD_BAKE = FIRST_DEED + BAKE;
@@ -886,7 +887,7 @@ public final class BreadTalk {
             }
         }
 
-        private boolean readSlot(char slot, int i) {
+        private boolean readSlot(int slot, int i) {
             boolean wordWanted = slot == 'k' || slot == 'b' || slot == 'w';
             if (token != (wordWanted ? WORD : NUMBER)) {
                 return false;
@@ -903,7 +904,7 @@ public final class BreadTalk {
             return true;
         }
 
-        private static boolean isWordOf(char slot, int word) {
+        private static boolean isWordOf(int slot, int word) {
             switch (slot) {
                 case 'k':
                     return word >= RYE && word <= WAFER;
@@ -914,7 +915,7 @@ public final class BreadTalk {
             }
         }
 
-        private boolean isNumberOf(char slot, int number) {
+        private boolean isNumberOf(int slot, int number) {
             switch (slot) {
                 case 'c':
                     return number >= 1 && number <= TOPICS;
@@ -1483,6 +1484,7 @@ public final class BreadTalk {
         private int topic;
         private int stubborn;
         private int limit;
+        private int lifting;
         private int best;
 
         Meals(Scene of) {
@@ -1518,7 +1520,7 @@ public final class BreadTalk {
         private void addHouse(int votes) {
             for (int set = (1 << scene.loaves) - 1; set >= 0; set--) {
                 int most = NEVER;
-                for (int part = set; part >= 0; part = part == 0 ? NONE : part - 1 & set) {
+                for (int part = set; part >= 0; part = part == 0 ? NONE : (part - 1) & set) {
                     int sign = Integer.signum(after[part * TOPICS + topic]);
                     most = Math.max(most, tallies[set - part] + votes * sign);
                 }
@@ -1590,6 +1592,7 @@ public final class BreadTalk {
         /** The fewest loaves (bits) by which a house's mind comes above 0, or NONE. */
         int winOver(int house, int onTopic) {
             sit(house, onTopic);
+            findLifting();
             Arrays.fill(seen, 0);
             best = SETS;
             for (int fewest = 0; fewest <= scene.loaves && best == SETS; fewest++) {
@@ -1599,25 +1602,38 @@ public final class BreadTalk {
             return best == SETS ? NONE : best;
         }
 
+        /** The loaves (bits) that are for the topic: by no others a mind comes from below 0 to 0, or above it. */
+        private void findLifting() {
+            lifting = 0;
+            for (int l = 0; l < scene.loaves; l++) {
+                if (scene.views[l * TOPICS + topic] > 0) {
+                    lifting |= 1 << l;
+                }
+            }
+        }
+
         private void search(int depth, int used) {
             int mind = levels[depth * TOPICS + topic];
             if (mind > 0) {
                 best = Math.min(best, used);
                 return;
             }
-            // Each loaf moves a mind by 1 at most.
-            if (limit - depth < 1 - mind || depth >= TOLD_LOAVES || isSeen(depth, used)) {
+            if (depth >= TOLD_LOAVES || isHopeless(depth, used, 1 - mind) || isSeen(depth, used)) {
                 return;
             }
             for (int l = 0; l < scene.loaves; l++) {
-                if ((used >> l & 1) == 0) {
-                    int next = deeper(depth);
+                if ((used >> l & 1) == 0 && scene.isAgreed(levels, depth * TOPICS, l, stubborn)) {
                     // A loaf that moves nothing could be left out, so it is in no fewest set.
-                    if (scene.isAgreed(levels, next, l, stubborn) && scene.bite(levels, next, l, 1)) {
+                    if (scene.bite(levels, deeper(depth), l, 1)) {
                         search(depth + 1, used | 1 << l);
                     }
                 }
             }
+        }
+
+        /** Each loaf moves a mind by 1 at most; the steps from -1 to 0, to 1 are by loaves that are for the topic. */
+        private boolean isHopeless(int depth, int used, int way) {
+            return limit - depth < way || Integer.bitCount(lifting & ~used) < Math.min(way, 2);
         }
 
         /** Whether the search was here before; it may forget, which costs time alone. */
@@ -1627,7 +1643,7 @@ public final class BreadTalk {
                 key = key * VIEWS + levels[depth * TOPICS + t] + GREATEST_VIEW;
             }
             key = (key * SETS + used) * (TOLD_LOAVES + 1) + limit + 1;
-            int cell = key * 0x9E3779B1 >>> SEEN_SHIFT;
+            int cell = (key * 0x9E3779B1) >>> SEEN_SHIFT;
             if (seen[cell] == key) {
                 return true;
             }
@@ -1653,27 +1669,27 @@ public final class BreadTalk {
             if (number == 0) {
                 return 0;
             }
-            return number > 0 ? 1 << house : 1 << house + HOUSES;
+            return number > 0 ? 1 << house : 1 << (house + HOUSES);
         }
 
         static int signOf(int signs, int house) {
-            return (signs >> house & 1) - (signs >> house + HOUSES & 1);
+            return (signs >> house & 1) - (signs >> (house + HOUSES) & 1);
         }
 
-        static int step(Town town, int signs, int athome) {
+        static int step(Town town, int signs, int hermits) {
             int next = 0;
             for (int h = 0; h < town.houses; h++) {
-                int hosts = (athome >> h & 1) != 0 ? 0 : town.visited[h];
-                int all = Integer.bitCount(hosts & signs) - Integer.bitCount(hosts & signs >> HOUSES);
+                int hosts = (hermits >> h & 1) != 0 ? 0 : town.visited[h];
+                int all = Integer.bitCount(hosts & signs) - Integer.bitCount(hosts & (signs >> HOUSES));
                 next |= placed(all != 0 ? all : signOf(signs, h), h);
             }
             return next;
         }
 
         /** Brent's way: the mark jumps ahead at powers of 2, until the walk comes back to it. */
-        static int period(Town town, int from, int athome) {
+        static int period(Town town, int from, int hermits) {
             int mark = from;
-            int walker = step(town, from, athome);
+            int walker = step(town, from, hermits);
             int power = 1;
             int steps = 1;
             for (int i = 0; i < FAR && walker != mark; i++) {
@@ -1682,7 +1698,7 @@ public final class BreadTalk {
                     power *= 2;
                     steps = 0;
                 }
-                walker = step(town, walker, athome);
+                walker = step(town, walker, hermits);
                 steps++;
             }
             return steps;
@@ -1704,7 +1720,7 @@ public final class BreadTalk {
             return steps;
         }
 
-        static int hermits(Town town, int topic) {
+        static int fewestHermits(Town town, int topic) {
             int from = signs(town, topic);
             int best = (1 << town.houses) - 1;
             for (int set = 0; set < 1 << town.houses; set++) {

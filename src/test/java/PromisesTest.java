@@ -180,6 +180,8 @@ public final class PromisesTest {
         faulty(0, "house 12;", 1, 8);
         faulty(0, "loaf pie 0;", 1, 5);
         faulty(0, "loaf 0 rye;", 1, 5);
+        faulty(0, "loaf bunz 0;", 1, 5);
+        faulty(0, "loaf abun 0;", 1, 5);
         faulty(0, "mind 0 0 1;", 1, 9);
         faulty(0, "mind 0 0 rye 1;", 1, 9);
         faulty(0, "mind 0 0 for against 1;", 1, 13);
@@ -396,6 +398,10 @@ public final class PromisesTest {
         stopAt("life 9;house 1 9;loaf rye 0;", "night;".repeat(9) + "eat 0 1;", 9);
         stopAt("life 1;house 1 0;", "bake bun 1;night;eat 0 0;", 3);
         stopAt("life 1;house 1 0;", "bake bun 1;night;night;eat 0 0;", 3);
+        BreadTalk x = Probe.withDays("house 1 0;loaf wafer 0;loaf wafer 0;", "eat 0 1;");
+        Probe.tell(x, 0, -1, "house 1 0;loaf wafer 0;");
+        P.due("with a second loaf", x.stop(0, 0), 1);
+        P.due("without, behind a town that has it", x.stop(1, 0), 0);
     }
 
     private static void states(BreadTalk x, int n, int from, int... want) {
@@ -523,6 +529,12 @@ public final class PromisesTest {
         BreadTalk w = Probe.withTown("topics 2;house 1 1;mind 0 0 for 1;said 0 1 for 1;loaf wafer 0;said 1 0 for 1;said 1 1 for 1;loaf wafer 1;loaf wafer 0;");
         P.due("by numbers", w.shares(0, 1, 2), 2);
         P.due("by numbers", w.shares(0, 1, 1), 1);
+        // Loaves 0 and 1 (1, 3, -3) together win house 0; loaf 2 (1, 0, 3) alone wins house 1.
+        BreadTalk v = Probe.withTown("house 1 0;house 9 0;mind 0 0 against 1;mind 0 1 for 3;mind 1 2 for 3;"
+                + "said 0 0 for 1;said 0 1 for 3;said 0 2 against 3;said 1 0 for 1;said 1 2 for 3;loaf wafer 0;loaf wafer 0;loaf wafer 1;");
+        P.due("all won", v.shares(0, 0, 0), 10);
+        P.due("the fewest, not the least number", v.shares(0, 0, 1), 1);
+        P.due("the fewest, not the least number", v.shares(0, 0, 2), 4);
     }
 
     private static void feast() {
@@ -720,6 +732,9 @@ public final class PromisesTest {
         P.due("by a lie", z.fits(0, 0), 1);
         P.due("by a lie", z.fits(0, 10), 3);
         P.due("by a lie: next", z.fits(0, 2), 6);
+        BreadTalk v = Probe.withPlate("topics 1;crumb wafer 0 against 3;");
+        P.due("at the lower end", v.fits(0, 10), -3);
+        P.due("at the lower end", v.fits(0, 20), -3);
         BreadTalk w = Probe.withPlate("topics 6;lies 9;");
         P.due("all", w.fits(0, 0), 117649);
         P.due("all: next", w.fits(0, 2), 24);
