@@ -401,6 +401,7 @@ public final class PromisesTest {
         BreadTalk x = Probe.withDays("house 1 0;loaf wafer 0;loaf wafer 0;", "eat 0 1;");
         Probe.tell(x, 0, -1, "house 1 0;loaf wafer 0;");
         P.due("with a second loaf", x.stop(0, 0), 1);
+        P.due("as it begins", x.state(0, 0, 0, 1), 2);
         P.due("without, behind a town that has it", x.stop(1, 0), 0);
     }
 

@@ -17,6 +17,9 @@ public final class RandomTest {
         for (int i = 0; i < 600; i++) {
             townAnswers(livelyTown());
         }
+        for (int i = 0; i < 1500; i++) {
+            swayAnswers(stubbornHouse());
+        }
         for (int i = 0; i < 300; i++) {
             daysAnswers(townText(i % 7 == 0), daysText());
         }
@@ -82,6 +85,23 @@ public final class RandomTest {
         }
         for (int i = 0; i < loaves; i++) {
             s.append("loaf ").append(Slow.KINDS.get(R.nextInt(5))).append(' ').append(R.nextInt(4)).append(';');
+        }
+        return s.toString();
+    }
+
+    /** One house and many loaves: long ways to its vote. */
+    private static String stubbornHouse() {
+        int topics = 3 + R.nextInt(4);
+        StringBuilder s = new StringBuilder("topics " + topics + ";house 1 " + R.nextInt(4) + ";");
+        for (int t = 0; t < topics; t++) {
+            s.append("mind 0 ").append(t).append(R.nextBoolean() ? " for " : " against ").append(R.nextInt(4)).append(';');
+        }
+        for (int i = 0; i < 8; i++) {
+            s.append("loaf ").append(Slow.KINDS.get(R.nextInt(5))).append(' ').append(R.nextInt(4)).append(';');
+        }
+        for (int i = 0; i < 12 && s.length() < 580; i++) {
+            String way = R.nextInt(3) == 0 ? " against " : " for ";
+            s.append("said ").append(R.nextInt(4)).append(' ').append(R.nextInt(topics)).append(way).append(R.nextInt(4)).append(';');
         }
         return s.toString();
     }
@@ -251,6 +271,16 @@ public final class RandomTest {
             int[] feast = Integer.bitCount(set) > 6 ? new int[] {-1000, -1000, -1000} : Slow.feast(town, h, set, t);
             for (int what = 0; what < 3; what++) {
                 P.due("feast " + h + " " + set + " " + what + of, x.feast(0, h, set, t, what), feast[what]);
+            }
+        }
+    }
+
+    private static void swayAnswers(String text) {
+        Slow.Town town = new Slow.Town(Slow.parse(0, text));
+        BreadTalk x = Probe.withTown(text);
+        for (int t = 0; t < town.topics; t++) {
+            if (town.minds[0][t] <= 0) {
+                P.due("sway on " + t + " of " + text, x.sway(0, 0, t, true), Slow.sway(town, 0, t));
             }
         }
     }
