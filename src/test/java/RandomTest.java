@@ -15,7 +15,11 @@ public final class RandomTest {
             townAnswers(townText(i % 7 == 0));
         }
         for (int i = 0; i < 600; i++) {
-            townAnswers(livelyTown());
+            townAnswers(livelyTown(1 + R.nextInt(3), 3 + R.nextInt(4)));
+        }
+        for (int i = 0; i < 40; i++) {
+            townAnswers(livelyTown(2, 8));
+            townAnswers(livelyTown(8, 3 + R.nextInt(2)));
         }
         for (int i = 0; i < 1500; i++) {
             swayAnswers(stubbornHouse());
@@ -66,10 +70,8 @@ public final class RandomTest {
     }
 
     /** Houses that give way, with minds on both sides: here sets of several loaves decide. */
-    private static String livelyTown() {
-        int topics = 1 + R.nextInt(3);
-        int houses = 1 + R.nextInt(3);
-        int loaves = 3 + R.nextInt(4);
+    private static String livelyTown(int houses, int loaves) {
+        int topics = houses > 4 ? 1 : 1 + R.nextInt(3);
         StringBuilder s = new StringBuilder("topics " + topics + ";");
         for (int h = 0; h < houses; h++) {
             s.append("house ").append(1 + R.nextInt(9)).append(' ').append(R.nextInt(3)).append(';');
@@ -79,7 +81,7 @@ public final class RandomTest {
                 s.append(other == h ? "" : "visit " + h + " " + other + ";");
             }
         }
-        for (int i = 0; i < 12 && s.length() < 450; i++) {
+        for (int i = 0; i < 12 && s.length() < 580 - 13 * loaves; i++) {
             String way = R.nextInt(4) == 0 ? " against " : " for ";
             s.append("said ").append(R.nextInt(4)).append(' ').append(R.nextInt(topics)).append(way).append(R.nextInt(4)).append(';');
         }
@@ -169,9 +171,18 @@ public final class RandomTest {
 
     // ---- answers
 
+    /** A town in the place of a full one, behind days by a seed: nothing of them may be left. */
+    private static BreadTalk usedFor(String text) {
+        BreadTalk x = Probe.withTown(townText(true));
+        x.drawn(0, R.nextInt(), 60, 1);
+        P.due("in the place of another: " + text, Probe.tell(x, 0, 0, text), 0);
+        x.drawn(0, R.nextInt(), 60, 1);
+        return x;
+    }
+
     private static void townAnswers(String text) {
         Slow.Town town = new Slow.Town(Slow.parse(0, text));
-        BreadTalk x = Probe.withTown(text);
+        BreadTalk x = usedFor(text);
         told(x, town, text);
         int houses = town.houses.size();
         int[] agree = Slow.agree(town);
@@ -277,7 +288,7 @@ public final class RandomTest {
 
     private static void swayAnswers(String text) {
         Slow.Town town = new Slow.Town(Slow.parse(0, text));
-        BreadTalk x = Probe.withTown(text);
+        BreadTalk x = usedFor(text);
         for (int t = 0; t < town.topics; t++) {
             if (town.minds[0][t] <= 0) {
                 P.due("sway on " + t + " of " + text, x.sway(0, 0, t, true), Slow.sway(town, 0, t));
