@@ -83,6 +83,9 @@ public final class BreadTalk {
     }
 
     public int text(int sort, int at) {
+        // The tape is taken by every text(), also by one that reads nothing.
+        int length = told.length;
+        told.length = 0;
         told.fault = 0;
         told.place = NONE;
         if (sort < 0 || sort >= SORTS) {
@@ -94,8 +97,7 @@ public final class BreadTalk {
         if (number < 0 || number >= bound) {
             return NO_TEXT;
         }
-        reader.read(told.tape, told.length, sort);
-        told.length = 0;
+        reader.read(told.tape, length, sort);
         if (reader.fault != 0) {
             told.fault = reader.fault;
             told.place = reader.place;

@@ -118,18 +118,21 @@ public final class PromisesTest {
             P.due("third", Probe.tell(x, sort, -1, "@"), -2);
             P.due("no text is read", x.fault(0), 0);
             P.due("no text is read", x.fault(1), -1);
-            P.due("no text is read", x.end(1), 1);
-            P.due("none such", x.text(sort, 2), -2);
-            P.due("none such", x.text(sort, -2), -2);
-            P.due("none such", x.text(sort, Integer.MAX_VALUE), -2);
-            P.due("a fault", x.text(sort, 1), -1);
+            P.due("taken without being read", x.end(1), -1);
+            nothingRead(x, sort, 2);
+            nothingRead(x, sort, -2);
+            nothingRead(x, sort, Integer.MIN_VALUE);
+            nothingRead(x, sort, Integer.MAX_VALUE);
+            P.due("a fault", Probe.tell(x, sort, 1, "@"), -1);
             P.due("a fault", x.fault(0), 1);
             P.due("taken with a fault", x.end(1), -1);
             P.due("no more", x.count(sort), 2);
         }
-        P.due("no such sort", x.text(3, -1), -2);
-        P.due("no such sort", x.text(-1, -1), -2);
-        P.due("fault is gone", x.fault(0), 0);
+        for (int at = -1; at < 2; at++) {
+            nothingRead(x, 3, at);
+            nothingRead(x, -1, at);
+        }
+        nothingReadOfNew();
         P.due("in the place of one", Probe.tell(x, 0, 1, "life 9;life 8;"), 1);
         P.due("later ones strike", x.town(1, 1), 8);
         P.due("the other stays", x.town(0, 1), 3);
@@ -140,6 +143,31 @@ public final class PromisesTest {
         P.due("an empty one", Probe.tell(x, 0, 1, ""), 1);
         P.due("nothing is left", x.town(1, 1), 3);
         P.due("sorts are apart", x.count(2), 2);
+    }
+
+    /** Every text() that answers -2 takes the tape, unread: FAULT 0, and what comes next comes onto an empty tape. */
+    private static void nothingRead(BreadTalk x, int sort, int at) {
+        String call = "text(" + sort + ", " + at + ")";
+        Probe.tell(x, 0, 0, "@");
+        P.due("a fault ahead of " + call, x.fault(0), 1);
+        P.due("fed ahead of " + call, x.feed(0, 0, 0, 0, 0), 20);
+        P.due("nothing read by " + call, x.text(sort, at), -2);
+        P.due("fault of " + call, x.fault(0), 0);
+        P.due("place of " + call, x.fault(1), -1);
+        P.due("tape behind " + call, x.end(1), -1);
+        P.due("fed behind " + call, x.feed(0, 0, 0, 0, 0), 20);
+        P.due("cut behind " + call, x.end(0), 0);
+    }
+
+    private static void nothingReadOfNew() {
+        for (int sort = 0; sort < 3; sort++) {
+            BreadTalk x = new BreadTalk();
+            P.due("fed", x.feed(0, 0, 0, 0, 0), 20);
+            P.due("none such", x.text(sort, 0), -2);
+            P.due("fed behind it", x.feed(0, 0, 0, 0, 0), 20);
+            P.due("no such sort", x.text(3 + sort, -1), -2);
+            P.due("a text of nothing", x.text(sort, -1), 0);
+        }
     }
 
     private static void faulty(int sort, String text, int fault, int place) {
