@@ -20,6 +20,7 @@ public final class DayEdgesTest {
         eatenOnce();
         talkOfNothing();
         talkByNumbers();
+        talkOfTheLastHouse();
         sayOnTopics();
         noSuchHouse();
         noSuchLoaf();
@@ -35,6 +36,8 @@ public final class DayEdgesTest {
         drawnTimes();
         drawnSeeds();
         drawnWithoutHouses();
+        drawnOfOneHouse();
+        drawnEatsTheLeast();
         drawnBakesNoMore();
         P.end("DayEdgesTest");
     }
@@ -268,6 +271,28 @@ public final class DayEdgesTest {
         }
         state("LAST is the greatest topic that it spoke of", x, 1, 283, 4);
         state("LAST is the greatest topic that it spoke of", x, 2, 283, 4);
+    }
+
+    /** The last house on all six topics: no topic is left, none comes behind them. */
+    private static void talkOfTheLastHouse() {
+        StringBuilder town = new StringBuilder("topics 6;" + "house 1 0;".repeat(8));
+        for (int t = 0; t < 6; t++) {
+            town.append("mind 7 ").append(t).append(view(t % 2 == 0 ? 1 + t / 2 : -1 - t / 2)).append(";mind 6 ").append(t).append(" for 1;");
+        }
+        BreadTalk x = Probe.withDays(town.toString(), "talk 7 3;talk 6 0;");
+        P.due("Promise 10: the last house talks by the last oven", x.stop(0, 0), 2);
+        for (int t = 0; t < 6; t++) {
+            state("what the last house says on " + t, x, 2, 218 + t, t % 2 == 0 ? 1 + t / 2 : -1 - t / 2);
+            state("what the one ahead of it says on " + t, x, 2, 200 + t, 1);
+            state("nothing was PAST on " + t, x, 2, 240 + t, 0);
+            state("by an oven of nobody on " + t, x, 2, 206 + t, 0);
+        }
+        state("LAST behind all six", x, 2, 283, 5);
+        state("LAST behind all six", x, 2, 280, 5);
+        // A mind of the next house on topic 0 is none of this house's on a seventh.
+        BreadTalk y = Probe.withDays("topics 6;house 1 0;house 1 0;mind 1 0 for 2;", "talk 0 1;");
+        state("a house without a mind says nothing", y, 1, 281, -1);
+        state("a house without a mind says nothing", y, 1, 206, 0);
     }
 
     private static void sayOnTopics() {
@@ -512,6 +537,76 @@ public final class DayEdgesTest {
                 P.due("Promise 24: LAST without houses", y.drawn(0, seed, 60, 280 + o), last[o]);
             }
         }
+    }
+
+    /** One house is enough: its number, below 1, is drawn as any other is; it eats and talks. */
+    private static void drawnOfOneHouse() {
+        int eaten = 0;
+        int talks = 0;
+        for (int seed = -20; seed < 20; seed++) {
+            long[] x = {seed & 0xffffffffL};
+            int nights = 0;
+            int left = 8;
+            boolean[] spoke = new boolean[4];
+            for (int i = 0; i < 8; i++) {
+                int sort = draw(x, 6);
+                if (sort < 2) {
+                    spoke[draw(x, 4)] = true;
+                    draw(x, 3);
+                    draw(x, 7);
+                } else if (sort == 2) {
+                    draw(x, 5);
+                    draw(x, 4);
+                } else if (sort == 5) {
+                    nights++;
+                } else {
+                    P.due("a number below 1", draw(x, 1), 0);
+                    if (sort == 3) {
+                        left--;
+                    } else {
+                        spoke[draw(x, 4)] = true;
+                        talks++;
+                    }
+                }
+            }
+            eaten += 8 - left;
+            // Wafers of nothing said: STUBBORN 0 agrees with each of them, no mind moves, none goes stale.
+            BreadTalk y = Probe.withTown("house 1 0;mind 0 0 for 1;" + "loaf wafer 0;".repeat(8));
+            P.due("Promise 24: nights of one house, seed " + seed, y.drawn(0, seed, 8, 0), nights);
+            P.due("Promise 24: what one house eats, seed " + seed, y.drawn(0, seed, 8, 2), 8 - left);
+            for (int l = 0; l < 8; l++) {
+                P.due("Promise 24: the least ones, seed " + seed, y.drawn(0, seed, 8, 20 + l), l < 8 - left ? 3 : 1);
+            }
+            for (int o = 0; o < 4; o++) {
+                P.due("Promise 24: by which oven one spoke, seed " + seed, y.drawn(0, seed, 8, 280 + o) >= 0, spoke[o]);
+            }
+        }
+        P.due("Promise 24: some are eaten, some talk", eaten > 0 && talks > 0, true);
+    }
+
+    /** Of all loaves it may eat the least: not one of less with which it does not agree; without one nothing is eaten. */
+    private static void drawnEatsTheLeast() {
+        String town = "house 1 3;mind 0 0 for 2;said 0 0 for 1;said 1 0 for 2;loaf wafer 0;loaf wafer 3;loaf wafer 1;loaf wafer 1;";
+        String none = "house 1 9;mind 0 0 for 2;said 0 0 for 3;" + "loaf wafer 0;".repeat(8);
+        int found = 0;
+        for (int seed = 0; seed < 64; seed++) {
+            long[] x = {seed};
+            if (draw(x, 6) != 3) {
+                continue;
+            }
+            found++;
+            int[] due = {1, 1, 3, 1};
+            BreadTalk y = Probe.withTown(town);
+            BreadTalk z = Probe.withTown(none);
+            for (int l = 0; l < 4; l++) {
+                P.due("Promise 24: the least it may eat, loaf " + l + ", seed " + seed, y.drawn(0, seed, 1, 20 + l), due[l]);
+                P.due("Promise 24: none that it may eat, loaf " + l + ", seed " + seed, z.drawn(0, seed, 1, 20 + l), 1);
+            }
+            P.due("Promise 24: one is eaten, seed " + seed, y.drawn(0, seed, 1, 2), 1);
+            P.due("Promise 24: none is eaten, seed " + seed, z.drawn(0, seed, 1, 2), 0);
+            P.due("Promise 24: the mind stays, seed " + seed, z.drawn(0, seed, 1, 40), 2);
+        }
+        P.due("Promise 24: seeds that begin with a meal", found > 0, true);
     }
 
     private static int draw(long[] x, int n) {

@@ -11,6 +11,7 @@ public final class PlateEdgesTest {
         falseOfMany();
         leastAndMost();
         nextOfTies();
+        nextOfEachView();
         nextOfOneRow();
         topicsOfPlates();
         platesApart();
@@ -144,6 +145,17 @@ public final class PlateEdgesTest {
         fits("bun of the last topic", "topics 6;lies 1;crumb wafer 5 for 1;crumb wafer 5 for 3;crumb wafer 0 for 0;crumb wafer 0 for 0;"
                 + "crumb wafer 1 for 0;crumb wafer 1 for 0;crumb wafer 2 for 0;crumb wafer 2 for 0;crumb wafer 3 for 0;crumb wafer 3 for 0;"
                 + "crumb wafer 4 for 0;crumb wafer 4 for 0;", 2, 1, 11);
+    }
+
+    /** The greatest number may be that of any VIEW, -3 and 3 too: it is had by 7 rows, each other one by 1. */
+    private static void nextOfEachView() {
+        for (int v = -3; v <= 3; v++) {
+            // With the first crumb true the second may lie; 13 rows, of which a wafer has 7 at most, a bun or toast 8 or 9.
+            String plate = "topics 2;lies 1;crumb wafer 0" + view(v) + ";crumb wafer 1 for 1;";
+            // Toast of 0 is by itself: it tells as much as a wafer.
+            fits("most have " + v, plate, 13, 0, v == 0 ? 18 : 24);
+            range("most have " + v, plate, 0, -3, 3);
+        }
     }
 
     /** One row alone: whatever is tried tells nothing, so the least number of all. */

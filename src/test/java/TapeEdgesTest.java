@@ -14,6 +14,7 @@ public final class TapeEdgesTest {
         endThenFeed();
         textFurther();
         textInThePlace();
+        textLeavesOtherSorts();
         textRefused();
         textFaulty();
         textOfNothing();
@@ -184,6 +185,36 @@ public final class TapeEdgesTest {
         P.due("Promise 4: a plate in the place of another", x.plate(0, -1, 0), 3);
         P.due("Promise 4: a plate in the place of another", x.plate(0, -1, 1), 0);
         P.due("Promise 4: a plate in the place of another", x.plate(0, -1, 2), 0);
+    }
+
+    /** Promise 4: a text of a sort, further or in the place of one, leaves all of the other sorts. */
+    private static void textLeavesOtherSorts() {
+        String[] texts = {"life 7;", "night;talk 1 1;", "lies 5;"};
+        for (int at = 0; at < 2; at++) {
+            for (int sort = 0; sort < 3; sort++) {
+                for (int before = 0; before < 2; before++) {
+                    BreadTalk x = new BreadTalk();
+                    for (int i = 0; i < 6; i++) {
+                        if (i % 3 != sort || before == 1) {
+                            Probe.tell(x, i % 3, -1, texts[i % 3]);
+                        }
+                    }
+                    int place = before == 1 ? at : -1;
+                    int number = before == 1 ? at : 0;
+                    P.due("Promise 4: an empty text of sort " + sort + " at " + place, Probe.tell(x, sort, place, ""), number);
+                    for (int other = 0; other < 2; other++) {
+                        boolean gone = other == number;
+                        boolean none = before == 0 && other == 1;
+                        int life = sort != 0 ? 7 : none ? -1 : gone ? 3 : 7;
+                        int deeds = sort != 1 ? 2 : none ? -9 : gone ? 0 : 2;
+                        int lies = sort != 2 ? 5 : none ? -9 : gone ? 0 : 5;
+                        P.due("Promise 4: town " + other + " behind sort " + sort + " at " + place, x.town(other, 1), life);
+                        P.due("Promise 4: days " + other + " behind sort " + sort + " at " + place, x.deed(other, -1, 0), deeds);
+                        P.due("Promise 4: plate " + other + " behind sort " + sort + " at " + place, x.plate(other, -1, 1), lies);
+                    }
+                }
+            }
+        }
     }
 
     private static BreadTalk told(int each) {

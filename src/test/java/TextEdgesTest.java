@@ -30,6 +30,7 @@ public final class TextEdgesTest {
         bytes();
         longRows();
         wordsAsLongAsTheyGo();
+        tokensCutByTheEnd();
         visitItself();
         fullSorts();
         orderOfFaults();
@@ -37,6 +38,7 @@ public final class TextEdgesTest {
         missingTopics();
         laterOnesStrike();
         furtherOnes();
+        eachItsOwn();
         atFirst();
         views();
         P.end("TextEdgesTest");
@@ -231,6 +233,36 @@ public final class TextEdgesTest {
         faulty(2, "crumb 0 bun for 1;", 1, 6);
     }
 
+    /** The end cuts a token: bytes that were on the tape behind it are no part of it. */
+    private static void tokensCutByTheEnd() {
+        String[] whole = {"life 99;", "life 3;", "house 1 12;", "said 0 0 against 1;", "topics 123;"};
+        for (String text : whole) {
+            for (int length = 0; length < text.length(); length++) {
+                BreadTalk x = new BreadTalk();
+                Probe.put(x, text);
+                x.end(length);
+                P.due("Promise 4: '" + text + "' cut to " + length, x.text(0, -1), length == 0 ? 0 : -1);
+                BreadTalk y = new BreadTalk();
+                Probe.tell(y, 0, -1, text.substring(0, length));
+                P.due("Promise 5: '" + text + "' cut to " + length + ": FAULT", x.fault(0), y.fault(0));
+                P.due("Promise 5: '" + text + "' cut to " + length + ": place", x.fault(1), y.fault(1));
+            }
+        }
+        BreadTalk x = new BreadTalk();
+        Probe.put(x, "life 99;");
+        x.end(6);
+        x.text(0, -1);
+        P.due("Promise 5: the end within a number: FAULT", x.fault(0), 1);
+        P.due("Promise 5: the end within a number: place", x.fault(1), 6);
+        faulty(0, " ".repeat(594) + "life 3", 1, 600);
+        faulty(0, " ".repeat(593) + "life 33", 1, 600);
+        faulty(0, " ".repeat(592) + "life 333", 1, 597);
+        faulty(0, " ".repeat(596) + "life", 1, 600);
+        faulty(0, " ".repeat(597) + "lif", 1, 597);
+        faulty(1, " ".repeat(595) + "night", 1, 600);
+        faulty(1, " ".repeat(594) + "night;", 0, -1);
+    }
+
     /** Of visit the second number can't be the first; if the first one can't be, that is the first by place. */
     private static void visitItself() {
         String houses = "house 1 0;".repeat(8);
@@ -380,6 +412,30 @@ public final class TextEdgesTest {
         BreadTalk z = Probe.withPlate("crumb bun 0 for 1;crumb bun 0 for 1;");
         P.due("Promise 20: a further crumb, though the same", z.plate(0, -1, 2), 2);
         good(0, "house 1 0;house 1 0;" + "visit 0 1;".repeat(58));
+    }
+
+    /** A line tells its own thing, and no other: what each one leaves at first. */
+    private static void eachItsOwn() {
+        String[] lines = {"topics 6;", "life 9;", "house 1 0;", "house 1 0;house 1 0;visit 0 1;", "house 1 0;mind 0 2 for 1;", "said 1 1 for 1;", "loaf toast 1;"};
+        int[][] sizes = {{6, 3, 0, 0, 0}, {3, 9, 0, 0, 0}, {3, 3, 1, 0, 0}, {3, 3, 2, 0, 0}, {3, 3, 1, 0, 0}, {3, 3, 0, 1, 0}, {3, 3, 0, 0, 1}};
+        for (int i = 0; i < lines.length; i++) {
+            BreadTalk x = Probe.withTown(lines[i]);
+            for (int what = 0; what < 5; what++) {
+                P.due("Promise 6: what " + what + " of " + lines[i], x.town(0, what), sizes[i][what]);
+            }
+            P.due("Promise 6: visits of " + lines[i], x.town(0, 30), sizes[i][2] == 0 ? -1 : i == 3 ? 2 : 0);
+            P.due("Promise 7: mind of " + lines[i], x.mind(0, 0, 2), sizes[i][2] == 0 ? -9 : i == 4 ? 1 : 0);
+            P.due("Promise 29: no days by " + lines[i], x.count(1), 0);
+            P.due("Promise 29: no plate by " + lines[i], x.count(2), 0);
+        }
+        String[] crumbs = {"topics 6;", "lies 9;", "crumb bun 2 for 1;"};
+        int[][] plates = {{6, 0, 0}, {3, 9, 0}, {3, 0, 1}};
+        for (int i = 0; i < crumbs.length; i++) {
+            BreadTalk x = Probe.withPlate(crumbs[i]);
+            for (int what = 0; what < 3; what++) {
+                P.due("Promise 20: what " + what + " of " + crumbs[i], x.plate(0, -1, what), plates[i][what]);
+            }
+        }
     }
 
     private static void atFirst() {

@@ -9,6 +9,7 @@ public final class TownEdgesTest {
         sharesAboveNought();
         sharesOfAllLoaves();
         sharesTheLeast();
+        sharesFewerAheadOfLess();
         sharesByNumbers();
         feastOfNone();
         feastOfMost();
@@ -17,6 +18,7 @@ public final class TownEdgesTest {
         agreeOfFew();
         agreeOfMany();
         strikeEdges();
+        clashOfSixTopics();
         sideEdges();
         visitsOfNobody();
         visitsChain();
@@ -30,6 +32,7 @@ public final class TownEdgesTest {
         apartEdges();
         factionsEdges();
         factionsChain();
+        factionsByTurns();
         pivotsEdges();
         swayEdges();
         swayOfMany();
@@ -83,6 +86,15 @@ public final class TownEdgesTest {
         shares("the last one alone helps", open + "loaf wafer 0;".repeat(7) + "loaf wafer 1;", 0, 1, 1, 128);
         shares("two help", open + "loaf wafer 0;loaf wafer 1;loaf wafer 0;loaf wafer 1;", 0, 1, 1, 2);
         shares("none helps", open + "loaf wafer 0;".repeat(8), 0, 0, -1, -1);
+    }
+
+    /** One loaf of a great number is fewer than two of less, which would do as well. */
+    private static void sharesFewerAheadOfLess() {
+        // Behind oven 0's loaf the house agrees with oven 1's, which is for topic 0; with oven 2's it agrees at once.
+        String town = "topics 2;house 1 3;mind 0 1 for 1;said 0 1 for 3;said 1 0 for 1;said 1 1 for 2;said 2 0 for 1;said 2 1 for 3;";
+        shares("two by numbers", town + "loaf wafer 0;loaf wafer 1;", 0, 1, 2, 3);
+        shares("fewer goes ahead of less", town + "loaf wafer 0;loaf wafer 1;loaf wafer 2;", 0, 1, 1, 4);
+        shares("fewer goes ahead of less, the last of eight", town + "loaf wafer 0;loaf wafer 1;" + "loaf wafer 3;".repeat(5) + "loaf wafer 2;", 0, 1, 1, 128);
     }
 
     /** By numbers: the house agrees with the loaf of less only behind the other one, which has the greater number. */
@@ -183,6 +195,14 @@ public final class TownEdgesTest {
         }
     }
 
+    /** Six topics are a loaf's own: what the next loaf has on topic 0 is no seventh. */
+    private static void clashOfSixTopics() {
+        String ovens = "topics 6;said 1 0 for 1;said 2 0 against 1;said 0 5 for 1;said 3 5 against 1;";
+        agree("the next loaf's first topic", ovens + "loaf wafer 0;loaf wafer 1;loaf wafer 2;", 0b011, 1, 1);
+        agree("the next loaf's first topic, the other way", ovens + "loaf wafer 2;loaf wafer 1;loaf wafer 0;", 0b101, 1, 1);
+        agree("the last topic, the first topic", ovens + "loaf wafer 0;loaf wafer 3;loaf wafer 1;loaf wafer 2;", 0b0101, 0b100001, 2);
+    }
+
     private static void sideEdges() {
         StringBuilder all = new StringBuilder("house 9 9;".repeat(8) + "said 0 0 for 3;loaf wafer 0;");
         for (int h = 0; h < 8; h++) {
@@ -276,6 +296,9 @@ public final class TownEdgesTest {
         visits("the least of several", "house 1 0;house 1 0;house 1 0;" + ring(0, 3, 2), 0, 0, 3, 1);
         // Houses 0 and 1 are no part of what goes round.
         visits("not the first ones", "house 1 0;".repeat(4) + "visit 0 1;" + ring(2, 2, 0), 0, 0, 2, 0b100);
+        // All others go to house 1, which goes to all of them: it alone is to stay, with its own sign, whatever it sees.
+        visits("the one in the middle", "house 1 0;".repeat(4) + "mind 1 0 for 1;mind 0 0 against 1;mind 2 0 against 1;mind 3 0 against 1;"
+                + "visit 0 1;visit 2 1;visit 3 1;visit 1 0;visit 1 2;visit 1 3;", 0, 0, 2, 0b10);
         visits("the last couple", "house 1 0;".repeat(8) + ring(6, 2, 0), 0, 0, 2, 0b1000000);
     }
 
@@ -414,6 +437,21 @@ public final class TownEdgesTest {
         P.due("Promise 26: two factions", x.factions(0, 1, -1), 2);
         P.due("Promise 26: within 0", x.factions(0, 0, -1), 8);
         P.due("Promise 26: within 2", x.factions(0, 2, -1), 1);
+    }
+
+    /** Houses of one FACTION need not be neighbours by number: each FACTION is counted once. */
+    private static void factionsByTurns() {
+        BreadTalk x = Probe.withTown("house 1 0;".repeat(8) + "mind 1 0 for 3;mind 3 0 for 3;mind 5 0 for 3;mind 7 0 for 3;mind 6 0 against 3;mind 2 0 against 3;");
+        P.due("Promise 26: by turns", x.factions(0, 0, -1), 3);
+        P.due("Promise 26: by turns, within 2", x.factions(0, 2, -1), 3);
+        P.due("Promise 26: by turns, within 3", x.factions(0, 3, -1), 1);
+        int[] due = {0x11, 0xaa, 0x44, 0xaa, 0x11, 0xaa, 0x44, 0xaa};
+        for (int h = 0; h < 8; h++) {
+            P.due("Promise 26: by turns, that of " + h, x.factions(0, 2, h), due[h]);
+        }
+        BreadTalk y = Probe.withTown("house 1 0;house 1 0;house 1 0;mind 1 0 for 1;");
+        P.due("Promise 26: two of three, one between", y.factions(0, 0, -1), 2);
+        P.due("Promise 26: two of three, one between", y.factions(0, 0, 2), 0b101);
     }
 
     private static void pivots(String name, String town, int topic, int want) {
