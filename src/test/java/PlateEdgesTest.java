@@ -12,6 +12,7 @@ public final class PlateEdgesTest {
         leastAndMost();
         nextOfTies();
         nextOfEachView();
+        nextOfEachTopic();
         nextOfOneRow();
         topicsOfPlates();
         platesApart();
@@ -155,6 +156,21 @@ public final class PlateEdgesTest {
             // Toast of 0 is by itself: it tells as much as a wafer.
             fits("most have " + v, plate, 13, 0, v == 0 ? 18 : 24);
             range("most have " + v, plate, 0, -3, 3);
+        }
+    }
+
+    /** All topics but one are known; of that one 2 and 3, or -1 to 1, or 1 and 3 are left: each kind of each topic may be the next. */
+    private static void nextOfEachTopic() {
+        for (int topics = 1; topics <= 6; topics++) {
+            for (int open = 0; open < topics; open++) {
+                StringBuilder known = new StringBuilder("topics " + topics + ";");
+                for (int t = 0; t < topics; t++) {
+                    known.append(t == open ? "" : "crumb wafer " + t + " for 1;crumb wafer " + t + " for 1;");
+                }
+                fits("a wafer of topic " + open + " of " + topics, known + "crumb bun " + open + " for 1;", 2, 0, 24 + open);
+                fits("toast of topic " + open + " of " + topics, known + "crumb bun " + open + " for 0;", 3, 0, 18 + open);
+                fits("a bun of topic " + open + " of " + topics, known + "lies 1;crumb wafer " + open + " for 1;crumb wafer " + open + " for 3;", 2, 1, 6 + open);
+            }
         }
     }
 

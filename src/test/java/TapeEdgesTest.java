@@ -21,6 +21,7 @@ public final class TapeEdgesTest {
         faultOfTheLatest();
         count();
         imageOfAll();
+        imageOfCounts();
         imageOver();
         againKeepsImages();
         againFromFull();
@@ -371,6 +372,24 @@ public final class TapeEdgesTest {
         x.end(11);
     }
 
+    /** Promise 31: how many there are of each sort is as the image has it, be it more or fewer. */
+    private static void imageOfCounts() {
+        for (int sort = 0; sort < 3; sort++) {
+            BreadTalk x = new BreadTalk();
+            for (int k = 0; k < 3; k++) {
+                x.image(k);
+                x.text(sort, -1);
+            }
+            for (int k : new int[] {0, 2, 1, 0, 1, 2}) {
+                P.due("Promise 31: again(" + k + ")", x.again(k), true);
+                for (int other = 0; other < 3; other++) {
+                    P.due("Promise 31: count(" + other + ") of image " + k, x.count(other), other == sort ? k : 0);
+                }
+                P.due("Promise 31: a further one behind image " + k, x.text(sort, -1), k < 2 ? k : -2);
+            }
+        }
+    }
+
     private static void imageOver() {
         BreadTalk x = new BreadTalk();
         x.image(0);
@@ -420,6 +439,14 @@ public final class TapeEdgesTest {
         P.due("Promise 31: the image's tape is full", feedBlanks(x), -1);
         P.due("Promise 31: the image's tape is full", x.end(600), 600);
         P.due("Promise 31: without towns again", x.count(0), 0);
+        P.due("Promise 31: a full tape of blanks", x.text(0, -1), 0);
+        Probe.put(x, " ".repeat(593) + "life 9;");
+        x.image(0);
+        x.end(0);
+        Probe.put(x, " ".repeat(599) + "@");
+        x.again(0);
+        P.due("Promise 31: all 600 bytes, the last one too", x.text(0, 0), 0);
+        P.due("Promise 31: all 600 bytes, the last one too", x.town(0, 1), 9);
     }
 
     private static void imagesOfNew() {

@@ -30,6 +30,8 @@ public final class TextEdgesTest {
         bytes();
         longRows();
         wordsAsLongAsTheyGo();
+        everyWordInEachPlace();
+        lettersChanged();
         tokensCutByTheEnd();
         visitItself();
         fullSorts();
@@ -231,6 +233,62 @@ public final class TextEdgesTest {
         faulty(2, "crumb rye 0 for 1;", 1, 6);
         faulty(2, "crumb crust 0 for 1;", 1, 6);
         faulty(2, "crumb 0 bun for 1;", 1, 6);
+    }
+
+    /** Every word there is, in each place of a word: it goes on there, or is FAULT 1 at its first byte. */
+    private static void everyWordInEachPlace() {
+        String kinds = " rye bun crust toast wafer ";
+        String views = " for against ";
+        String[] firsts = {" topics life house visit mind said loaf ", " say bake eat butter talk night ", " topics lies crumb "};
+        String all = kinds + views + firsts[0] + firsts[1] + firsts[2];
+        for (String word : all.trim().split(" +")) {
+            word(0, "loaf ", word, " 0;", kinds);
+            word(1, "bake ", word, " 0;", kinds);
+            word(2, "crumb ", word, " 0 for 1;", " bun toast wafer ");
+            word(0, "house 1 0;mind 0 0 ", word, " 1;", views);
+            word(0, "said 0 0 ", word, " 1;", views);
+            word(1, "say 0 0 ", word, " 1;", views);
+            word(2, "crumb bun 0 ", word, " 1;", views);
+            for (int sort = 0; sort < 3; sort++) {
+                boolean begins = firsts[sort].contains(" " + word + " ");
+                faulty(sort, word, 1, begins ? word.length() : 0);
+            }
+        }
+    }
+
+    private static void word(int sort, String before, String word, String behind, String good) {
+        boolean goesOn = good.contains(" " + word + " ");
+        faulty(sort, before + word + behind, goesOn ? 0 : 1, goesOn ? -1 : before.length());
+    }
+
+    /** Every word with one letter changed, one less, one more, or a great one: it is no word of the text's. */
+    private static void lettersChanged() {
+        for (int sort = 0; sort < 3; sort++) {
+            for (String line : LINES[sort]) {
+                String[] tokens = (line + " ;").split(" ");
+                for (int i = 0; i < tokens.length; i++) {
+                    int place = i == 0 ? 0 : String.join(" ", java.util.Arrays.copyOf(tokens, i)).length() + 1;
+                    for (int at = 0; Character.isLetter(tokens[i].charAt(0)) && at < tokens[i].length(); at++) {
+                        String word = tokens[i];
+                        char other = word.charAt(at) == 'z' ? 'y' : (char) (word.charAt(at) + 1);
+                        changed(sort, tokens, i, word.substring(0, at) + other + word.substring(at + 1), place);
+                        changed(sort, tokens, i, word.substring(0, at) + word.charAt(at) + word.substring(at), place);
+                        if (word.length() > 1) {
+                            changed(sort, tokens, i, word.substring(0, at) + word.substring(at + 1), place);
+                        }
+                        char great = Character.toUpperCase(word.charAt(at));
+                        // A great letter is no token: where it stands behind others, these are a shorter word, which is none.
+                        changed(sort, tokens, i, word.substring(0, at) + great + word.substring(at + 1), place);
+                    }
+                }
+            }
+        }
+    }
+
+    private static void changed(int sort, String[] tokens, int i, String word, int place) {
+        String[] other = tokens.clone();
+        other[i] = word;
+        faulty(sort, String.join(" ", other), 1, place);
     }
 
     /** The end cuts a token: bytes that were on the tape behind it are no part of it. */

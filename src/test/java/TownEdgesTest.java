@@ -10,6 +10,8 @@ public final class TownEdgesTest {
         sharesOfAllLoaves();
         sharesTheLeast();
         sharesFewerAheadOfLess();
+        sharesOfTheLastTopic();
+        stubbornAtTheEdge();
         sharesByNumbers();
         feastOfNone();
         feastOfMost();
@@ -95,6 +97,28 @@ public final class TownEdgesTest {
         shares("two by numbers", town + "loaf wafer 0;loaf wafer 1;", 0, 1, 2, 3);
         shares("fewer goes ahead of less", town + "loaf wafer 0;loaf wafer 1;loaf wafer 2;", 0, 1, 1, 4);
         shares("fewer goes ahead of less, the last of eight", town + "loaf wafer 0;loaf wafer 1;" + "loaf wafer 3;".repeat(5) + "loaf wafer 2;", 0, 1, 1, 128);
+    }
+
+    /** Of six topics the last one, on which it takes several loaves. */
+    private static void sharesOfTheLastTopic() {
+        for (int t = 0; t < 6; t++) {
+            int other = (t + 1) % 6;
+            String town = "topics 6;house 4 0;mind 0 " + t + " against 1;mind 0 " + other + " for 3;said 0 " + t + " for 3;said 0 " + other + " for 3;";
+            shares("one loaf is too few on topic " + t, town + "loaf wafer 0;", t, 0, -1, -1);
+            shares("two loaves on topic " + t, town + "loaf wafer 0;loaf wafer 0;", t, 4, 2, 3);
+            shares("two of eight on topic " + t, town + "loaf wafer 0;".repeat(8), t, 4, 2, 3);
+        }
+    }
+
+    /** STUBBORN or more, for the meals that are thought of: what the house agrees with is 6 exactly. */
+    private static void stubbornAtTheEdge() {
+        for (int stubborn = 0; stubborn <= 9; stubborn++) {
+            boolean eats = stubborn <= 6;
+            String town = "topics 2;house 1 " + stubborn + ";mind 0 1 for 2;said 0 0 for 1;said 0 1 for 3;loaf wafer 0;";
+            shares("6 of STUBBORN " + stubborn, town, 0, eats ? 1 : 0, eats ? 1 : -1, eats ? 1 : -1);
+            feast(Probe.withTown(town), "6 of STUBBORN " + stubborn, 0, 1, 0, eats ? 1 : 0, eats ? 1 : 0, eats ? 1 : 0);
+            sway("6 of STUBBORN " + stubborn, town, 0, 0, eats ? 1 : -1);
+        }
     }
 
     /** By numbers: the house agrees with the loaf of less only behind the other one, which has the greater number. */
