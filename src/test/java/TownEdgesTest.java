@@ -237,6 +237,16 @@ public final class TownEdgesTest {
             BreadTalk x = Probe.withTown("house 4 " + stubborn + ";mind 0 1 for 2;said 0 1 for 3;loaf wafer 0;");
             P.due("Promise 15: 6 of STUBBORN " + stubborn, x.side(0, 0, 1), stubborn <= 6 ? 4 : 0);
         }
+        for (int mind = -3; mind <= 3; mind++) {
+            for (int v = -3; v <= 3; v++) {
+                // On topic 1 there are 9, so that it agrees whatever it thinks of topic 0.
+                BreadTalk x = Probe.withTown("topics 2;house 7 0;mind 0 1 for 3;mind 0 0" + view(mind) + ";said 0 1 for 3;said 0 0" + view(v) + ";loaf wafer 0;");
+                if (v != 0) {
+                    P.due("Promise 15: a mind of " + mind + ", a view of " + v, x.side(0, 0, 0), mind * v > 0 ? 7 : 0);
+                }
+                P.due("Promise 15: on the other topic", x.side(0, 0, 1), 7);
+            }
+        }
         // It agrees by topic 0, and is of the other sign on topic 1; on topic 2 it has no mind.
         BreadTalk y = Probe.withTown("house 4 0;mind 0 0 for 3;mind 0 1 against 1;said 0 0 for 3;said 0 1 for 1;said 0 2 for 1;loaf wafer 0;loaf wafer 1;");
         P.due("Promise 15: of its sign", y.side(0, 0, 0), 4);
@@ -323,6 +333,11 @@ public final class TownEdgesTest {
         // All others go to house 1, which goes to all of them: it alone is to stay, with its own sign, whatever it sees.
         visits("the one in the middle", "house 1 0;".repeat(4) + "mind 1 0 for 1;mind 0 0 against 1;mind 2 0 against 1;mind 3 0 against 1;"
                 + "visit 0 1;visit 2 1;visit 3 1;visit 1 0;visit 1 2;visit 1 3;", 0, 0, 2, 0b10);
+        StringBuilder star = new StringBuilder("house 1 0;".repeat(8) + "mind 7 0 for 1;");
+        for (int h = 0; h < 7; h++) {
+            star.append("mind ").append(h).append(" 0 against 1;visit ").append(h).append(" 7;visit 7 ").append(h).append(';');
+        }
+        visits("the last one in the middle of seven", star.toString(), 0, 0, 2, 0b10000000);
         visits("the last couple", "house 1 0;".repeat(8) + ring(6, 2, 0), 0, 0, 2, 0b1000000);
     }
 
@@ -491,6 +506,8 @@ public final class TownEdgesTest {
         pivots("even: without each it is another sign", "house 4 0;house 4 0;mind 0 0 for 1;mind 1 0 against 1;", 0, 3);
         pivots("by 1: to 0 is another sign", "house 4 0;house 1 0;house 4 0;mind 0 0 for 1;mind 1 0 for 1;mind 2 0 against 1;", 0, 0b011);
         pivots("without the other side it is more of the same", "house 2 0;house 1 0;mind 0 0 for 1;mind 1 0 against 1;", 0, 1);
+        pivots("two of 1 and one of 2", "house 1 0;house 1 0;house 2 0;mind 0 0 for 3;mind 1 0 for 1;mind 2 0 against 1;", 0, 0b111);
+        pivots("two of 1 and one of 3", "house 1 0;house 1 0;house 3 0;mind 0 0 for 3;mind 1 0 for 1;mind 2 0 against 1;", 0, 0b100);
         pivots("to the other sign", "house 3 0;house 2 0;mind 0 0 for 1;mind 1 0 against 1;", 0, 1);
         pivots("one without a mind", "house 9 0;house 1 0;mind 1 0 for 1;", 0, 2);
         StringBuilder all = new StringBuilder("topics 6;" + "house 9 0;".repeat(8));

@@ -141,7 +141,7 @@ public final class UsedTest {
 
     /** Loaves of another town help nobody: with each of theirs the house would agree, with its own it does not. */
     private static void loavesOfAnotherTown() {
-        BreadTalk x = Probe.withTown("topics 2;house 9 0;said 0 0 for 3;said 0 1 for 3;said 1 0 against 3;" + "loaf wafer 0;loaf wafer 1;".repeat(4));
+        BreadTalk x = Probe.withTown("topics 2;house 9 0;said 0 0 for 3;said 0 1 for 3;said 1 0 against 3;" + "loaf wafer 0;".repeat(4) + "loaf wafer 1;".repeat(4));
         Probe.tell(x, 0, -1, "topics 2;house 1 2;mind 0 1 for 1;said 0 0 for 1;said 0 1 for 1;loaf wafer 0;");
         for (int i = 0; i < 2; i++) {
             P.due("Promise 28: by one's own loaves none", x.sway(1, 0, 0, true), -1);
